@@ -499,7 +499,7 @@ public final class EdgePicture {
                     if (runs == 0) ahead = run;
                     else behind = run;
                     runs++;
-                    longest = Math.max(longest, run);
+                    if (run > longest) longest = run;
                     run = 0;
                 }
             }
@@ -712,7 +712,7 @@ public final class EdgePicture {
 
         boolean holds(int picture) {
             for (int number = 0; number < size; number++) {
-                if (at(number) == picture) return picture >= 0;
+                if (at(number) == picture) return true;
             }
             return false;
         }
@@ -787,7 +787,7 @@ public final class EdgePicture {
             return found;
         }
 
-        /** Finds them, till the limit; where a list is given, they come behind it. */
+        /** Finds them, till the limit; if there is a list, they come into it. */
         void run(int most, Fits list) {
             limit = most;
             found = 0;
@@ -801,15 +801,17 @@ public final class EdgePicture {
             int line = high + column;
             int slot = row * MOST_SIDE + column;
             if (line >= MOST_LINES || slot >= MOST_CELLS) return;
-            open[slot] = 0;
+            int partly = 0;
             for (int cells = 0; cells < 1 << high; cells++) {
-                if ((ways[line] >> cells & 1) != 0) open[slot] |= 1 << (cells >> row << row);
+                if ((ways[line] >> cells & 1) != 0) partly |= 1 << (cells >> row << row);
             }
+            open[slot] = partly;
         }
 
-        /** Lays this row and all above it; the row, below 4 at first, is how deep it still goes. */
+        /** Lays this row and all above it; the number of the row is how deep it still goes. */
         private void lay(int row, int picture, int columns, Fits list) {
-            if (row < 0 || row >= MOST_SIDE) {
+            if (row >= MOST_SIDE) return;
+            if (row < 0) {
                 found++;
                 if (list != null) list.add(picture);
                 return;
@@ -833,7 +835,8 @@ public final class EdgePicture {
         private boolean canGoOn(int row, int columns) {
             for (int column = 0; column < wide && column < MOST_SIDE; column++) {
                 int laid = columns >> column * MOST_SIDE & 15;
-                if ((open[row * MOST_SIDE + column] >> laid & 1) == 0) return false;
+                int slot = row * MOST_SIDE + column;
+                if (slot >= MOST_CELLS || (open[slot] >> laid & 1) == 0) return false;
             }
             return true;
         }

@@ -135,6 +135,12 @@ public final class PromiseTests {
             faultOf(text + ";", text.length());
             faultOf(text + "1", text.length());
         }
+        EdgePicture x = new EdgePicture();
+        for (int end = WIDEST.length(); end >= 0; end--) {
+            x.blank();
+            write(x, WIDEST.substring(0, end));
+            due("fault() knows nothing of letters that are gone", x.fault(), end);
+        }
         faultOf("1", 0);
         faultOf("5", 0);
         faultOf("x2;", 0);
@@ -389,6 +395,7 @@ public final class PromiseTests {
         x.mark(1, 2);
         x.mark(3, 2);
         x.see(0, 1, true);
+        due("left before", x.left(), 0);
         due("clear()", x.clear(), 3);
         due("clear() again", x.clear(), 0);
         due("nothing is marked", x.cell(1, 0), 0);
@@ -408,7 +415,8 @@ public final class PromiseTests {
         due("its kind then", x.line(0, 0), 0);
         due("its first then", x.line(0, 1), 4);
         due("its second then", x.line(0, 2), 0);
-        due("left by other clues", x.clue(1, 0, 0, 0), 4);
+        due("left before", x.left(), 0);
+        due("of a twin, too", x.clue(1, 0, 0, 0), 4);
         due("left then", x.left(), 1);
         int[][] wrong = {{0, -1, 0, 0}, {0, 5, 0, 0}, {0, 0, -1, 0}, {0, 0, 5, 0}, {0, 0, 1, 1}, {0, 2, 1, 1},
             {0, 3, 1, 1}, {0, 1, 0, 1}, {0, 4, 0, 1}, {0, 1, 4, 1}, {0, 1, 3, 1}, {0, 1, 2, 2}, {0, 4, 1, 3},
@@ -538,6 +546,14 @@ public final class PromiseTests {
         due("three are not enough", y.hints(65535, 0), NONE);
         due("three are not enough: no first", y.hints(65535, 1), NONE);
         due("both are done", y.count(9), 2);
+        due("the picture without black", on("22;c0,c0;c0,c0").hints(0, 0), 0);
+        EdgePicture w = on("22;p1,p1;p1,p1");
+        due("two, both white", w.hints(6, 0), 2);
+        due("the first", w.hints(6, 1), 0);
+        due("the second", w.hints(6, 2), 3);
+        due("four would be needed", w.hints(15, 0), NONE);
+        due("the first of two that are neighbours", on(THREE).hints(7, 1), 0);
+        due("the second of two that are neighbours", on(THREE).hints(7, 2), 1);
         EdgePicture z = on("44;c1,c1,c1,c1;c1,c1,c1,c1");
         int slope = 1 << 3 | 1 << 6 | 1 << 9 | 1 << 12;
         due("three", z.hints(slope, 0), 3);
@@ -557,6 +573,11 @@ public final class PromiseTests {
         due("a second that stays", on("42;c1,c0,c1,c0;c0,r21").one(), 501);
         due("a second that is too long goes", on("42;c1,c1,c1,c0;c0,r21").one(), 503);
         due("a second behind 0 goes", on("42;c0,c0,c0,c0;c0,r21").one(), 500);
+        EdgePicture v = on("42;c1,c1,c0,c1;c0,r11");
+        v.mark(1, 1);
+        v.mark(3, 1);
+        v.mark(7, 1);
+        due("a second that just has room stays", v.one(), 502);
         EdgePicture w = on("22;c2,c2;c2,c1");
         due("the least of several", w.one(), 1);
         for (int cell = 0; cell < 4; cell++) w.mark(cell, 1);
@@ -661,6 +682,17 @@ public final class PromiseTests {
         due("none fits", y.games(10, 3, 0), STATE);
         due("none fits, wrong", y.games(10, 3, 3), OUTSIDE);
         due("more than 200 fit", on(MANY).games(1, 0, 0), STATE);
+        due("201 fit", on("44;p1,p1,l2,p1;p1,c2,l1,l1").games(1, 0, 2), STATE);
+        due("200 fit", on("44;l1,p1,l1,p1;c2,p1,p1,c2").games(1, 0, 2), 12345);
+        EdgePicture z = on("22;p1,p1;p1,p1");
+        due("left", z.left(), 7);
+        int quick = 0;
+        for (int seed = 0; seed < 20; seed++) {
+            int cells = z.games(1, seed, 0);
+            due("quick, if no more than two", z.games(1, seed, 1), cells <= 2 ? 1 : 0);
+            if (cells == 2) quick++;
+        }
+        CHECK.holds("some games have just two", quick > 0);
     }
 
     private static long gamesByModel(int times, int seed, int what) {
@@ -702,6 +734,7 @@ public final class PromiseTests {
         x.see(1, 1, false);
         x.clue(0, 3, 2, 0);
         x.letter(65);
+        due("left before", x.left(), 0);
         due("restore()", x.restore(), 1);
         due("the page is as it was", x.blank(), 1);
         due("all as in the image", x.digest(), kept);
