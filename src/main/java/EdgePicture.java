@@ -317,6 +317,7 @@ public final class EdgePicture {
 
     /** The first CELLS by numbers, so many more from one on, that tell the PICTURE; depth: more. */
     private int growHints(int picture, int chosen, int from, int more) {
+        if (more > MOST_HINTS) return NONE;
         if (more < 1) return fits.tells(picture, chosen) ? chosen : NONE;
         for (int cell = from; cell < now.cells(); cell++) {
             if (now.howMarked(cell) != UNMARKED) continue;
@@ -337,6 +338,7 @@ public final class EdgePicture {
 
     /** The least change of a LINE's CLUE after which just one PICTURE FITS; NONE. */
     private int changeToOne(int line) {
+        if (!now.hasLine(line)) return NONE;
         int length = now.length(line);
         int kind = now.kinds[line];
         int first = now.firsts[line];
