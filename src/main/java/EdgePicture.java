@@ -643,7 +643,8 @@ public final class EdgePicture {
         }
 
         private boolean wouldKeep(int line, int kind, int cells) {
-            return hasLine(line) && Kinds.isKept(kind, firsts[line], seconds[line], cells);
+            if (line < 0 || line >= MOST_LINES) return false;
+            return Kinds.isKept(kind, firsts[line], seconds[line], cells);
         }
 
         int nextTry(int line) {
